@@ -289,20 +289,14 @@ public final class HotLoops {
             }
         }
 
-        void become(Plugs other) {
+        void clear() {
             count = 0;
-            addAll(other);
-        }
-
-        void becomeOne(int volume, int warmth) {
-            count = 0;
-            add(volume, warmth);
         }
 
         /** The first so much becomes the row front, what is behind it the row back. */
         void split(int frontVolume, Plugs front, Plugs back) {
-            front.count = 0;
-            back.count = 0;
+            front.clear();
+            back.clear();
             int open = frontVolume;
             for (int i = 0; i < count; i++) {
                 int part = Math.min(open, volumes[i]);
@@ -361,7 +355,7 @@ public final class HotLoops {
             long lost = 0;
             int before = count;
             // The row is put together anew in its own place, so that like neighbours become one.
-            count = 0;
+            clear();
             for (int i = 0; i < before; i++) {
                 int less = (warmths[i] - air) / divisor;
                 lost += (long) volumes[i] * less;
@@ -472,12 +466,12 @@ public final class HotLoops {
             }
         }
 
-        /** Takes over what the coming minutes depend on; the sums of the past stay behind. */
+        /** Takes over the rows and the air; a trial has a HEAT of its own and needs no past. */
         void copyFrom(Water other) {
             for (int pipe = 0; pipe < net.count; pipe++) {
-                rows[pipe].become(other.rows[pipe]);
+                rows[pipe].clear();
+                rows[pipe].addAll(other.rows[pipe]);
             }
-            heat = other.heat;
             air = other.air;
         }
 
@@ -500,13 +494,15 @@ public final class HotLoops {
 
         void fillWithAir(int pipe) {
             if (pipe >= 0 && pipe < net.count) {
-                rows[pipe].becomeOne(net.volumes[pipe], air);
+                rows[pipe].clear();
+                rows[pipe].add(net.volumes[pipe], air);
             }
         }
 
         /** Takes a volume at a pipe's end, out of the pipes; it stands in taken then. */
         void takeOut(int pipe, int volume) {
-            taken.becomeOne(volume, heat);
+            taken.clear();
+            taken.add(volume, heat);
             given += taken.volumeTimesWarmth();
             for (int i = findWay(pipe) - 1; i >= 0; i--) {
                 pushThrough(way[i]);
@@ -528,11 +524,14 @@ public final class HotLoops {
 
         /** Pushes what was taken into a pipe; what it drives out at the end is taken then. */
         private void pushThrough(int pipe) {
-            pushed.become(taken);
-            pushed.addAll(rows[pipe]);
+            Plugs row = rows[pipe];
+            pushed.clear();
+            pushed.addAll(taken);
+            pushed.addAll(row);
             pushed.split(net.volumes[pipe], rest, taken);
             lost += rest.thin();
-            rows[pipe].become(rest);
+            row.clear();
+            row.addAll(rest);
             flowMinutes[pipe] = minute;
         }
 
