@@ -276,7 +276,7 @@ public final class HotLoops {
             }
             if (count > 0 && warmths[count - 1] == warmth) {
                 volumes[count - 1] += volume;
-            } else if (count < volumes.length) {
+            } else if (count < volumes.length) { // rows are made for all that can come
                 volumes[count] = volume;
                 warmths[count] = warmth;
                 count++;
