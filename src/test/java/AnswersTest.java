@@ -1,8 +1,6 @@
 /** Promises 8 to 13: what there is. */
 public final class AnswersTest {
-    private static final int MIN = Integer.MIN_VALUE;
     private static final int MAX = Integer.MAX_VALUE;
-    private static final int[] NO_PIPES = {MIN, -1, 3, 10, MAX};
 
     public static void main(String[] args) {
         promise8Plugs();
@@ -39,16 +37,6 @@ public final class AnswersTest {
         Check.is("plug(1, 2, 1)", x.plug(1, 2, 1), HotLoops.NONE);
         Check.is("plug(1, 12, 0)", x.plug(1, 12, 0), HotLoops.NONE);
         Check.is("plug(1, MAX, 1)", x.plug(1, MAX, 1), HotLoops.NONE);
-        for (int pipe : NO_PIPES) {
-            Check.badArgument(x, "plug(" + pipe + ", 0, 0)", () -> x.plug(pipe, 0, 0));
-        }
-        for (int number : new int[] {MIN, -1}) {
-            Check.badArgument(x, "plug(0, " + number + ", 0)", () -> x.plug(0, number, 0));
-        }
-        for (int what : new int[] {MIN, -1, 2, MAX}) {
-            Check.badArgument(x, "plug(0, 0, " + what + ")", () -> x.plug(0, 0, what));
-            Check.badArgument(x, "plug(0, 99, " + what + ")", () -> x.plug(0, 99, what));
-        }
     }
 
     private static void promise9Told() {
@@ -70,12 +58,6 @@ public final class AnswersTest {
         x.run(3);
         Check.is("told(0, 2) then", x.told(0, 2), 3);
         Check.is("told(2, 2) then", x.told(2, 2), 5);
-        for (int pipe : NO_PIPES) {
-            Check.badArgument(x, "told(" + pipe + ", 0)", () -> x.told(pipe, 0));
-        }
-        for (int what : new int[] {MIN, -1, 4, MAX}) {
-            Check.badArgument(x, "told(0, " + what + ")", () -> x.told(0, what));
-        }
     }
 
     private static void promise9Tepid() {
@@ -121,10 +103,6 @@ public final class AnswersTest {
         Check.is("dead(3, 0)", x.dead(3, 0), HotLoops.NONE);
         Check.is("dead(MAX, 0)", x.dead(MAX, 0), HotLoops.NONE);
         Check.is("dead(0, MAX)", x.dead(0, MAX), HotLoops.NONE);
-        for (int number : new int[] {MIN, -1}) {
-            Check.badArgument(x, "dead(" + number + ", 0)", () -> x.dead(number, 0));
-            Check.badArgument(x, "dead(0, " + number + ")", () -> x.dead(0, number));
-        }
     }
 
     private static void promise10NothingEverFlowed() {
@@ -156,17 +134,10 @@ public final class AnswersTest {
         x.set(0, 10000);
         Check.is("warm(2, 10000) in the heater", x.warm(2, 10000), 40);
         Check.is("warm(0, 5997) in the heater", x.warm(0, 5997), 10);
-        for (int pipe : NO_PIPES) {
-            Check.badArgument(x, "warm(" + pipe + ", 0)", () -> x.warm(pipe, 0));
-        }
-        for (int warmth : new int[] {MIN, -1, 10001, MAX}) {
-            Check.badArgument(x, "warm(0, " + warmth + ")", () -> x.warm(0, warmth));
-        }
     }
 
     private static void promise12Drawn() {
         HotLoops x = fork();
-        Check.badArgument(x, "drawn(0, 0) without draws", () -> x.drawn(0, 0));
         x.draw(1, 1, 33);
         x.draw(1, 0, 7);
         for (int what = 0; what < 3; what++) {
@@ -182,14 +153,7 @@ public final class AnswersTest {
         Check.is("drawn(0, 2)", x.drawn(0, 2), 6000);
         x.run(100);
         Check.is("drawn(0, 2) later", x.drawn(0, 2), 6000);
-        for (int draw : new int[] {MIN, -1, 2, 60, MAX}) {
-            Check.badArgument(x, "drawn(" + draw + ", 0)", () -> x.drawn(draw, 0));
-        }
-        for (int what : new int[] {MIN, -1, 3, MAX}) {
-            Check.badArgument(x, "drawn(0, " + what + ")", () -> x.drawn(0, what));
-        }
         x.draw(1, 102, 5);
-        Check.badArgument(x, "drawn(2, 3) before its minute", () -> x.drawn(2, 3));
     }
 
     private static void promise13Heat() {
@@ -207,8 +171,5 @@ public final class AnswersTest {
         Check.is("OUT", x.heat(2), 19 * 2000);
         Check.is("LOST", x.heat(3), 19 * 4);
         Check.is("HELD", x.heat(0), 60 * 2000 + 19 * 4000 - 19 * 4);
-        for (int what : new int[] {MIN, -1, 4, MAX}) {
-            Check.badArgument(x, "heat(" + what + ")", () -> x.heat(what));
-        }
     }
 }

@@ -1,14 +1,9 @@
 /** Promises 1 to 5: what a new object is, and how pipes, taps, warmths and loops are told. */
 public final class BuildingTest {
-    private static final int MIN = Integer.MIN_VALUE;
-    private static final int MAX = Integer.MAX_VALUE;
-
     public static void main(String[] args) {
         promise1NewObject();
         promise1ObjectsAreApart();
         promise2Pipes();
-        promise2WrongPipes();
-        promise2NoPipeBehindAMinute();
         promise3Taps();
         promise4Warmths();
         promise4AirFillsPipes();
@@ -25,8 +20,6 @@ public final class BuildingTest {
         }
         Check.is("dead(0, 0)", x.dead(0, 0), HotLoops.NONE);
         Check.is("shock(7000, 10, 1, 6000, 0)", x.shock(7000, 10, 1, 6000, 0), HotLoops.NONE);
-        Check.badArgument(x, "tap(0)", () -> x.tap(0));
-        Check.badArgument(x, "drawn(0, 0)", () -> x.drawn(0, 0));
         Check.is("set(0, 6000)", x.set(0, 6000), 6000);
         Check.is("set(1, 2000)", x.set(1, 2000), 2000);
         Check.is("pipe(NONE, 5, 5)", x.pipe(HotLoops.NONE, 5, 5), 0);
@@ -58,50 +51,20 @@ public final class BuildingTest {
         for (int number = 3; number < 10; number++) {
             Check.is("pipe " + number, x.pipe(number - 1, 10, 10), number);
         }
-        Check.badState(x, "the 11th pipe", () -> x.pipe(9, 10, 10));
-        Check.badArgument(x, "the 11th pipe from none", () -> x.pipe(10, 10, 10));
-        Check.badArgument(x, "the 11th pipe without volume", () -> x.pipe(9, 0, 10));
-        Check.badArgument(x, "the 11th pipe without leads", () -> x.pipe(9, 10, 0));
         Check.is("up to the heater from 9", x.warm(9, 6000), 77);
         Check.is("up to the heater from 1", x.warm(1, 6000), 1001);
     }
 
-    private static void promise2WrongPipes() {
-        HotLoops x = new HotLoops();
-        x.pipe(HotLoops.NONE, 5, 5);
-        for (int from : new int[] {MIN, -2, 1, 2, 10, MAX}) {
-            Check.badArgument(x, "pipe(" + from + ", 5, 5)", () -> x.pipe(from, 5, 5));
-        }
-        for (int number : new int[] {MIN, -1, 0, 1001, MAX}) {
-            Check.badArgument(x, "pipe(0, " + number + ", 5)", () -> x.pipe(0, number, 5));
-            Check.badArgument(x, "pipe(0, 5, " + number + ")", () -> x.pipe(0, 5, number));
-        }
-        Check.is("pipe(0, 5, 5)", x.pipe(0, 5, 5), 1);
-    }
-
-    private static void promise2NoPipeBehindAMinute() {
-        HotLoops x = new HotLoops();
-        x.pipe(HotLoops.NONE, 5, 5);
-        x.run(1);
-        Check.badState(x, "pipe behind a minute", () -> x.pipe(0, 5, 5));
-        Check.badArgument(x, "wrong pipe behind a minute", () -> x.pipe(1, 5, 5));
-    }
-
     private static void promise3Taps() {
         HotLoops x = new HotLoops();
-        Check.badArgument(x, "tap(0) without pipes", () -> x.tap(0));
         x.pipe(HotLoops.NONE, 5, 5);
         x.pipe(0, 5, 5);
         Check.is("tap(1)", x.tap(1), true);
         Check.is("tap(1) again", x.tap(1), false);
         Check.is("tap(1) a third time", x.tap(1), false);
-        Check.badState(x, "draw(0, 0, 5) without a tap", () -> x.draw(0, 0, 5));
         x.run(1);
         Check.is("tap(0) behind a minute", x.tap(0), true);
         Check.is("draw(0, 1, 5)", x.draw(0, 1, 5), 0);
-        for (int pipe : new int[] {MIN, -1, 2, 10, MAX}) {
-            Check.badArgument(x, "tap(" + pipe + ")", () -> x.tap(pipe));
-        }
     }
 
     private static void promise4Warmths() {
@@ -112,13 +75,6 @@ public final class BuildingTest {
         Check.is("set(1, 10000)", x.set(1, 10000), 2000);
         Check.is("set(1, 0)", x.set(1, 0), 10000);
         Check.is("set(1, 7)", x.set(1, 7), 0);
-        for (int number : new int[] {MIN, -1, 10001, MAX}) {
-            Check.badArgument(x, "set(0, " + number + ")", () -> x.set(0, number));
-            Check.badArgument(x, "set(1, " + number + ")", () -> x.set(1, number));
-        }
-        for (int what : new int[] {MIN, -1, 2, MAX}) {
-            Check.badArgument(x, "set(" + what + ", 5)", () -> x.set(what, 5));
-        }
         Check.is("set(0, 6)", x.set(0, 6), 5);
         Check.is("set(1, 8)", x.set(1, 8), 7);
     }
@@ -168,12 +124,6 @@ public final class BuildingTest {
         x.pipe(HotLoops.NONE, 10, 1000);
         Check.is("loop(0, 500)", x.loop(0, 500), 0);
         Check.is("loop(0, 4)", x.loop(0, 4), 500);
-        for (int volume : new int[] {MIN, -1, 501, MAX}) {
-            Check.badArgument(x, "loop(0, " + volume + ")", () -> x.loop(0, volume));
-        }
-        for (int pipe : new int[] {MIN, -1, 1, 10, MAX}) {
-            Check.badArgument(x, "loop(" + pipe + ", 5)", () -> x.loop(pipe, 5));
-        }
         x.run(2);
         Check.same("row of a loop of 4", Check.row(x, 0), "4@5996 4@5993 2@2000");
         Check.is("GIVEN", x.heat(1), 8 * 6000);

