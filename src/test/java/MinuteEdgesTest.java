@@ -10,6 +10,7 @@ public final class MinuteEdgesTest {
         takingThroughPipes();
         moreThanTwelve();
         moreThanTwelveFromThePipeBefore();
+        moreThanTwelveInEachTake();
         asManyPlugsAsCanBe();
         orderInAMinute();
         cooling();
@@ -112,6 +113,19 @@ public final class MinuteEdgesTest {
                 Runs.some("loop(0, 0)", "set(0, 2990)", "draw(1, 12, 14)", "run(1)", "row(1) -> 1@2990",
                 "drawn(0, 0) -> 2516", "drawn(0, 1) -> 2000", "drawn(0, 2) -> 2990",
                 "heat(2) -> 59230", "heat(3) -> 0")));
+    }
+
+    private static void moreThanTwelveInEachTake() {
+        String[] twelve = Runs.rows(Runs.some("pipe(NONE, 13, 1000)", "tap(0)", "loop(0, 1)"),
+                minutesOf("2001", "2080", "2160", "2240", "2320", "2400", "2480", "2560", "2640", "2720", "2800"),
+                Runs.some("row(0) -> 1@2800 " + NINE_BEHIND + " 1@2001 2@2000", "set(0, 2990)"));
+        // The draw makes 13 plugs, of which 2001 and the last 2000 become one; of it the loop takes half.
+        Runs.holds("more than 12 then: in each TAKE, not at the minute's end",
+                Runs.rows(twelve, Runs.some("draw(0, 11, 1)", "run(1)",
+                "row(0) -> 2@2990 1@2800 " + NINE_BEHIND + " 1@2000", "heat(3) -> 1")));
+        Runs.holds("one TAKE of as much has only 12 then, and nothing is joined",
+                Runs.rows(twelve, Runs.some("loop(0, 2)", "run(1)",
+                "row(0) -> 2@2990 1@2800 " + NINE_BEHIND + " 1@2001", "heat(3) -> 0")));
     }
 
     private static void asManyPlugsAsCanBe() {

@@ -114,6 +114,9 @@ final class Runs {
     private String later() {
         List<String> told = new ArrayList<>();
         int pipes = tellAll(told);
+        // First of all what HEAT and the AIR were: a shock of this list could hide a change of theirs.
+        tell(told, "set(0, 7000)");
+        tell(told, "set(1, 1500)");
         tell(told, "shock(9000, 7, 3, 5000, 0)");
         tell(told, "shock(9000, 70, 30, 5000, 1)");
         for (int pipe = 0; pipe < pipes; pipe++) {
